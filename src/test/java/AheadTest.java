@@ -79,6 +79,23 @@ public final class AheadTest {
         Check.same("fallen", x.count(4), fallen);
         Check.same("heat", x.count(8), heat);
         Check.same("it is out by the water", x.count(3), 1);
+        foreseeWithoutCoal();
+    }
+
+    /** The coal is at its end when the fire begins, so that the water dwindles. */
+    private static void foreseeWithoutCoal() {
+        FireEngines x = new FireEngines();
+        x.dig(0, 0, 5000);
+        x.addEngine(1, 0, 4, 10);
+        x.build(2, 0, 9, 60);
+        x.pass(59);
+        x.aim(0, 0);
+        x.light(0, 30);
+        int heat = x.foresee(12, 2);
+        x.pass(12);
+        Check.same("coal", x.engine(0, 3), 0);
+        Check.same("steam", x.engine(0, 4), 43);
+        Check.same("heat", x.count(8), heat);
     }
 
     private static void lasts() {
@@ -160,6 +177,7 @@ public final class AheadTest {
         x.relay(0, 1);
         x.pass(10);
         Check.same("1, 2 and 3 are even", x.weakest(1), 1);
+        weakerAndStillWeaker();
         Check.same("2 and 3 are even", x.weakest(3), 2);
         FireEngines y = new FireEngines();
         y.addEngine(0, 0, 1, 6);
@@ -170,6 +188,20 @@ public final class AheadTest {
         y.relay(2, 1);
         y.pass(1);
         Check.same("by what it can pump now, not by its power", y.weakest(0), 2);
+    }
+
+    private static void weakerAndStillWeaker() {
+        FireEngines x = new FireEngines();
+        x.addEngine(0, 0, 1, 5);
+        x.addEngine(1, 0, 1, 7);
+        x.addEngine(2, 0, 1, 9);
+        x.relay(0, 1);
+        x.relay(1, 2);
+        x.pass(10);
+        Check.same("the weakest is not the last weaker one", x.weakest(2), 0);
+        x.addEngine(3, 0, 1, 8);
+        x.relay(3, 2);
+        Check.same("one without steam can pump nothing", x.weakest(2), 3);
     }
 
     private static void weakestRefuses() {

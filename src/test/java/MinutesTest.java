@@ -173,6 +173,14 @@ public final class MinutesTest {
         y.pass(1);
         Check.same("at most 100, and 2 less behind the water", y.engine(0, 4), 98);
         Check.same("1 * 100 / 20", y.engine(0, 8), 5);
+        FireEngines z = new FireEngines();
+        z.dig(0, 0, 1);
+        z.addEngine(1, 0, 1, 1);
+        z.build(2, 0, 1, 60);
+        z.aim(0, 0);
+        z.pass(5);
+        Check.same("1 given", z.engine(0, 8), 1);
+        Check.same("costs as much", z.engine(0, 4), 18);
     }
 
     private static void withoutAHoseNothingIsSucked() {
@@ -277,7 +285,26 @@ public final class MinutesTest {
         Check.same("1 is asked first", x.engine(1, 8), 20);
         Check.same("0 gives what came", x.engine(0, 8), 20);
         Check.same("and need not suck", x.pond(0), 5);
+        againstTheNumbers();
         chosenAnewEachTime();
+    }
+
+    /** 2 gives to 0, and 0 to 1: asked as 2, 0, 1. */
+    private static void againstTheNumbers() {
+        FireEngines x = new FireEngines();
+        x.dig(0, 0, 100);
+        x.addEngine(2, 0, 1, 9);
+        x.addEngine(3, 0, 1, 8);
+        x.addEngine(1, 0, 1, 10);
+        x.build(4, 0, 1, 60);
+        x.relay(2, 0);
+        x.relay(0, 1);
+        x.aim(1, 0);
+        x.pass(5);
+        Check.same("2 gave", x.engine(2, 8), 10);
+        Check.same("0 gave", x.engine(0, 8), 9);
+        Check.same("1 gave", x.engine(1, 8), 8);
+        Check.same("came", x.house(0, 5), 8);
     }
 
     /** 0 waits for 2: 1 is asked, then 2, then 0 goes before 3, though 3 waited for nobody. */

@@ -97,8 +97,11 @@ public final class TownTest {
         Check.same("it arrives all the same", x.engine(0, 0), 78);
         Check.noState("build where it came to", x, () -> x.build(8, 5, 1, 1));
         Check.same("build where it was", x.build(5, 5, 1, 1), 1);
-        x.addEngine(0, 0, 4, 10);
-        Check.same("an engine without a goal holds no other cell", x.build(0, 1, 1, 1), 2);
+        x.addEngine(1, 0, 4, 10);
+        Check.same("an engine that never drove holds no other cell", x.build(0, 0, 1, 1), 2);
+        x.drive(0, 9, 5);
+        x.pass(1);
+        Check.same("nor one that drove away its former goal", x.build(8, 5, 1, 1), 3);
     }
 
     private static void atMostThirtyHouses() {
