@@ -56,6 +56,21 @@ final class Check {
         raises(call, IllegalStateException.class, x, run);
     }
 
+    /** One of both was refused calls that the other never got: what is on each cell and what comes must be the same. */
+    static void twins(String calls, FireEngines x, FireEngines y) {
+        same(calls + ": digest", x.digest(), y.digest());
+        same(calls + ": walls", x.walls(), y.walls());
+        for (int cell = 0; cell < 140; cell++) {
+            for (int what = 0; what <= 1; what++) {
+                same(calls + ": cell", x.cell(cell % 14, cell / 14, what), y.cell(cell % 14, cell / 14, what));
+            }
+        }
+        for (int minutes : new int[] {1, 7, 100}) {
+            same(calls + ": caught fire", x.pass(minutes), y.pass(minutes));
+            same(calls + ": digest later", x.digest(), y.digest());
+        }
+    }
+
     static void fault(String text) {
         wrong++;
         System.out.println(text);

@@ -9,6 +9,7 @@ public final class RandomRunsTest {
 
     private static long seed;
     private static final int[][] made = new int[CALLS][];
+    private static final boolean[] changes = new boolean[CALLS];
     private static int calls;
 
     public static void main(String[] args) {
@@ -20,8 +21,8 @@ public final class RandomRunsTest {
             for (int i = 0; i < CALLS; i++) {
                 int[] call = i < 60 ? buildingCall(town) : anyCall(town);
                 made[calls] = call;
+                changes[calls] = make(x, call, true);
                 calls++;
-                make(x, call, true);
                 checkTown(x);
                 if (i % 40 == 39) {
                     looksAhead(x);
@@ -30,6 +31,7 @@ public final class RandomRunsTest {
                 }
             }
             Check.same("the same calls answer the same", again().digest(), x.digest());
+            Check.twins("without those that were refused or asked alone", againWithoutOthers(), x);
         }
         Check.end();
     }
@@ -81,7 +83,8 @@ public final class RandomRunsTest {
         }
     }
 
-    private static void make(FireEngines x, int[] c, boolean check) {
+    /** Makes a call, and tells whether it may have changed something. */
+    private static boolean make(FireEngines x, int[] c, boolean check) {
         long before = check ? x.digest() : 0;
         boolean threw = false;
         try {
@@ -96,6 +99,7 @@ public final class RandomRunsTest {
         if (check && (threw || asks) && x.digest() != before) {
             Check.fault("call " + c[0] + " changed something");
         }
+        return !threw && !asks;
     }
 
     private static void ownThrow(RuntimeException e) {
@@ -136,6 +140,17 @@ public final class RandomRunsTest {
         FireEngines x = new FireEngines();
         for (int i = 0; i < calls; i++) {
             make(x, made[i], false);
+        }
+        return x;
+    }
+
+    /** A new object behind those of the calls alone that changed something. */
+    private static FireEngines againWithoutOthers() {
+        FireEngines x = new FireEngines();
+        for (int i = 0; i < calls; i++) {
+            if (changes[i]) {
+                make(x, made[i], false);
+            }
         }
         return x;
     }
