@@ -27,7 +27,10 @@ final class Check {
         }
     }
 
-    /** The call must throw an exception of just this class, and leave the town as it is. */
+    /**
+     * The call must throw an exception of just this class by a throw statement of its own, not by what a list or
+     * the machine throws, and leave the town as it is.
+     */
     static void raises(String call, Class<?> due, FireEngines x, Call run) {
         long before = x.digest();
         String got = "nothing";
@@ -35,6 +38,9 @@ final class Check {
             run.run();
         } catch (RuntimeException e) {
             got = e.getClass().getName();
+            if (!e.getStackTrace()[0].getClassName().startsWith("FireEngines")) {
+                fault(call + " did not throw by itself: " + e);
+            }
         }
         if (!got.equals(due.getName())) {
             fault(call + " threw " + got + ", due is " + due.getName());

@@ -96,7 +96,7 @@ public final class EnginesBoundsTest {
         Check.same("its power", x.engine(1, 2), 20);
     }
 
-    /** "Throws IllegalStateException if the cell is no street"; other engines there, or to come, are in nobody's way. */
+    /** "Throws IllegalStateException if the cell is no street"; other engines are in nobody's way. */
     private static void engineOnNoStreet() {
         for (int state = Towns.WHOLE; state <= Towns.FALLEN; state++) {
             FireEngines x = Towns.withHouse(state);
@@ -326,7 +326,7 @@ public final class EnginesBoundsTest {
         Check.same("to the wall", y.drive(0, 7, 0), 6);
     }
 
-    /** "by the fewest steps; a step takes 5 less its horses minutes": one step, and 58 through as many as there can be. */
+    /** "by the fewest steps; a step takes 5 less its horses minutes": one step, and 58 between walls. */
     private static void driveTheShortestAndTheLongestWay() {
         FireEngines x = new FireEngines();
         for (int i = 0; i < 36; i++) {

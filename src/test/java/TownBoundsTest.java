@@ -71,7 +71,7 @@ public final class TownBoundsTest {
 
     // ---- promise 2
 
-    /** "Throws IndexOutOfBoundsException if there is no such cell"; "14 columns, x, 0 to 13, and 10 rows, y, 0 to 9". */
+    /** "if there is no such cell"; "14 columns, x, 0 to 13, and 10 rows, y, 0 to 9: the cell x + 14 * y". */
     private static void buildOnTheEdges() {
         FireEngines x = new FireEngines();
         for (int[] p : OUTSIDE) {
@@ -511,7 +511,7 @@ public final class TownBoundsTest {
         Check.same("what 6", x.house(29, 6), 0);
     }
 
-    /** "2 its walls": "0 if it has fallen"; "4 its heat, 0 if it does not burn"; "3 0 if it is whole, 1 .., 2 .., 3 ..". */
+    /** "0 if it has fallen"; "0 if it does not burn"; "0 if it is whole, 1 .., 2 .., 3 ..". */
     private static void houseAtItsLeastAndMost() {
         int[] walls = {60, 60, 60, 0};
         int[] heat = {0, 20, 0, 0};
