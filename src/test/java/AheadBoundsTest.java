@@ -133,7 +133,9 @@ public final class AheadBoundsTest {
     /** "at most 200"; "-1 if some burn behind all of these": 201 is too long, 200 and 199 are not. */
     private static void lastsTwoHundred() {
         FireEngines x = row();
-        int minutes = 0;
+        x.pass(100);
+        x.pass(100);
+        int minutes = 200;
         while (minutes < 400 && x.count(2) > 0) {
             x.pass(1);
             minutes++;
@@ -479,20 +481,19 @@ public final class AheadBoundsTest {
     private static void digestWrapsAround() {
         int negative = 0;
         int positive = 0;
-        FireEngines x = new FireEngines();
-        x.build(0, 0, 1, 60);
-        for (int i = 0; i < 20; i++) {
-            Check.same("of a house", x.digest(), digestOf(x, new int[] {}));
-            negative += x.digest() < 0 ? 1 : 0;
-            positive += x.digest() > 0 ? 1 : 0;
-            x.pass(1);
-        }
-        x.addEngine(0, 1, 1, 1);
-        for (int i = 0; i < 20; i++) {
-            Check.same("with an engine without hose and pond", x.digest(), digestOf(x, new int[] {}));
-            negative += x.digest() < 0 ? 1 : 0;
-            positive += x.digest() > 0 ? 1 : 0;
-            x.pass(1);
+        for (int engines = 0; engines <= 1; engines++) {
+            for (int minutes = 1; minutes <= 20; minutes++) {
+                FireEngines x = new FireEngines();
+                x.build(0, 0, 1, 60);
+                if (engines == 1) {
+                    x.addEngine(0, 1, 1, 1);
+                }
+                x.pass(minutes);
+                long d = x.digest();
+                Check.same("of a house and engines, " + engines, d, digestOf(x, new int[] {}));
+                negative += d < 0 ? 1 : 0;
+                positive += d > 0 ? 1 : 0;
+            }
         }
         Check.same("some are below 0", negative > 0, true);
         Check.same("some are above 0", positive > 0, true);
@@ -500,18 +501,19 @@ public final class AheadBoundsTest {
 
     /** "for each house .., for each pond its cell and its water; for each engine .., in its order": of all. */
     private static void digestOfAll() {
-        FireEngines x = Towns.full();
         int[] cells = {126, 128, 130, 132, 134, 136};
+        FireEngines x = Towns.full();
         Check.same("new", x.digest(), digestOf(x, cells));
-        x.aim(0, 28);
-        x.relay(1, 0);
-        x.light(28, 1);
-        x.light(13, 99);
-        x.drive(5, 13, 9);
-        x.pass(2);
-        Check.same("in the midst", x.digest(), digestOf(x, cells));
-        x.pass(100);
-        Check.same("at the end", x.digest(), digestOf(x, cells));
+        for (int minutes : new int[] {2, 100}) {
+            FireEngines y = Towns.full();
+            y.aim(0, 28);
+            y.relay(1, 0);
+            y.light(28, 1);
+            y.light(13, 99);
+            y.drive(5, 13, 9);
+            y.pass(minutes);
+            Check.same("behind " + minutes, y.digest(), digestOf(y, cells));
+        }
     }
 
     /** The checksum by numbers without an end, cut to 64 bits behind all of them. */

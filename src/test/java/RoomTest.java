@@ -3,7 +3,7 @@ import java.lang.management.ManagementFactory;
 
 /** All calls of one run live in one room: an object is small, and its dearest calls make nothing new. */
 public final class RoomTest {
-    private static final int CALLS = 500;
+    private static final int CALLS = 400;
     private static final long BYTES_OF_AN_OBJECT = 8_000;
     private static final long BYTES_OF_A_FULL_TOWN = 24_000;
     private static final long BYTES_OF_ALL_CALLS = 4_000;

@@ -25,19 +25,20 @@ public final class TownTest {
         for (int what = 0; what <= 9; what++) {
             Check.same("new: count(" + what + ")", x.count(what), 0);
         }
-        for (int c = 0; c < 140; c++) {
-            Check.same("new: cell 0", x.cell(c % 14, c / 14, 0), 0);
-            Check.same("new: cell 1", x.cell(c % 14, c / 14, 1), -1);
-            Check.same("new: cell 2", x.cell(c % 14, c / 14, 2), 0);
-            Check.same("new: cell 3", x.cell(c % 14, c / 14, 3), 0);
+        int[] due = {0, -1, 0, 0};
+        for (int what = 0; what <= 3; what++) {
+            FireEngines y = new FireEngines();
+            for (int c = 0; c < 140; c++) {
+                Check.same("new: cell " + what, y.cell(c % 14, c / 14, what), due[what]);
+            }
         }
         Check.same("new: walls", x.walls(), 0.0);
         Check.same("new: lasts", x.lasts(), 0);
-        long due = 607;
+        long d = 607;
         for (int what = 0; what <= 9; what++) {
-            due = due * 31;
+            d = d * 31;
         }
-        Check.same("new: digest", x.digest(), due);
+        Check.same("new: digest", x.digest(), d);
         FireEngines other = new FireEngines();
         other.build(1, 1, 1, 1);
         Check.same("objects share nothing", x.count(1), 0);
